@@ -2340,6 +2340,8 @@ public final class IceTreaty {
         // By places in the order that is tried, then by ices.
         private final int[] days = new int[MOST_STOPS * ICES];
         private final int[] order = new int[MOST_STOPS];
+        // By sets of stops that are still to come, as bits, then by the stop where the ship is: the least days of travel.
+        private final int[] ahead = new int[(1 << MOST_STOPS) * MOST_STOPS];
         final int[] best = new int[MOST_STOPS];
         // The day at the first stop for which best and end stand; NONE: they don't.
         int start = NONE;
@@ -2373,7 +2375,29 @@ public final class IceTreaty {
         void seek(int firstDay) {
             start = firstDay;
             end = NONE;
+            lookAhead();
             extend(0, 0);
+        }
+
+        /** Most orders can't end ahead of the best one: with this that is seen long before their last stop. */
+        private void lookAhead() {
+            for (int set = 1; set < 1 << stops.size; set++) {
+                for (int x = 0; x < stops.size; x++) {
+                    Rows.put(ahead, set * MOST_STOPS + x, leastAhead(set, x));
+                }
+            }
+        }
+
+        private int leastAhead(int set, int x) {
+            int least = NONE;
+            for (int y = 0; y < stops.size; y++) {
+                if ((set >> y & 1) == 0) {
+                    continue;
+                }
+                int days = Rows.get(legs, x * MOST_STOPS + y) + Rows.get(ahead, (set & ~(1 << y)) * MOST_STOPS + y);
+                least = least == NONE ? days : Math.min(least, days);
+            }
+            return Math.max(0, least);
         }
 
         /** Orders are tried from the least row on, so only a lesser end is better. */
@@ -2383,20 +2407,21 @@ public final class IceTreaty {
                 return;
             }
             for (int x = 0; x < stops.size; x++) {
-                if ((gone >> x & 1) == 0 && comes(level, x)) {
+                if ((gone >> x & 1) == 0 && comes(level, x, gone | 1 << x)) {
                     Rows.put(order, level, x);
                     extend(level + 1, gone | 1 << x);
                 }
             }
         }
 
-        /** Whether the ship comes to a stop in time in all ices, and ahead of the best end. */
-        private boolean comes(int level, int x) {
+        /** Whether the ship comes to a stop in time in all ices and can still end ahead of the best end. */
+        private boolean comes(int level, int x, int gone) {
             int leg = Rows.get(legs, Rows.get(order, level - 1) * MOST_STOPS + x);
+            int rest = Rows.get(ahead, ((1 << stops.size) - 1 & ~gone) * MOST_STOPS + x);
             for (int i = 0; i < ICES; i++) {
                 int arrival = level == 0 ? start : Rows.get(days, (level - 1) * ICES + i) + leg;
                 int day = Math.max(arrival, Rows.get(opens, i * MOST_STOPS + x));
-                if (arrival > Rows.get(closes, i * MOST_STOPS + x) || end != NONE && day >= end) {
+                if (arrival > Rows.get(closes, i * MOST_STOPS + x) || end != NONE && day + rest >= end) {
                     return false;
                 }
                 Rows.put(days, level * ICES + i, day);
