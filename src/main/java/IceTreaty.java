@@ -1964,20 +1964,19 @@ public final class IceTreaty {
                 depth--;
                 take(')');
             } else {
-                comparison();
+                terms();
+                int kind = comparison(next());
+                place++;
+                terms();
+                text.addStep(kind, 0);
             }
         }
 
-        private void comparison() {
-            terms();
-            int sign = next();
+        private int comparison(int sign) {
             if (sign != '<' && sign != '>' && sign != '=') {
                 refuse(FAULT_SIGN, place);
-                return;
             }
-            place++;
-            terms();
-            text.addStep(sign == '<' ? LESS : sign == '>' ? MORE : SAME, 0);
+            return sign == '<' ? LESS : sign == '>' ? MORE : SAME;
         }
 
         private void terms() {
@@ -2048,7 +2047,8 @@ public final class IceTreaty {
 
         /** The sign that is read next; NONE at the end. */
         private int next() {
-            return place < end ? Rows.get(source, place) : NONE;
+            boolean isThere = source != null && place >= 0 && place < end && place < source.length;
+            return isThere ? source[place] : NONE;
         }
 
         private void take(int sign) {
@@ -2060,10 +2060,13 @@ public final class IceTreaty {
         }
 
         private void deepen(int sign) {
-            if (next() == sign && depth >= MOST_DEPTH) {
+            if (next() != sign) {
+                refuse(FAULT_SIGN, place);
+            } else if (depth >= MOST_DEPTH) {
                 refuse(FAULT_DEPTH, place);
+            } else {
+                place++;
             }
-            take(sign);
             depth++;
         }
 

@@ -139,6 +139,10 @@ public final class ReportsTest {
         Check.due("57 empty then", x.count(16), 0);
         x.feed(0, 3, 2, 70000, 3);
         Check.due("57 it has not so many", x.check(3), -2);
+        x.feed(0, 0, 0, 0, 0);
+        Check.due("57 five twos are in 40 bytes", x.check(6), -2);
+        Check.due("57 five twos are in 40 bytes", x.check(5), 6);
+        x.feed(0, 3, 2, 70000, 3);
         Check.due("57 below 0", x.check(-1), -2);
         Check.due("57 huge", x.check(Integer.MAX_VALUE), -2);
         Check.due("57 huge", x.check(Integer.MIN_VALUE), -2);

@@ -75,6 +75,7 @@ public final class StationsTest {
         for (int[] w : wrong) {
             Check.due("33 declare" + java.util.Arrays.toString(w), x.declare(w[0], w[1], w[2]), false);
         }
+        Check.due("33 declare", x.declare(1, 0, 0), true);
         Check.due("33 declare", x.declare(1, 500, 1000000), true);
         Check.due("33 even of a lost one", x.declare(0, 1, 1), true);
         x.visit(1, 1);

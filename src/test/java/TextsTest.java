@@ -268,7 +268,7 @@ public final class TextsTest {
         Check.due("17 z without one", x.number(3, 0, 0), 0);
         Check.due("17 k without one", x.number(10, 0, 0), -1);
         Check.text(x, "a3;a4;q0;q9;g1;g0;k0.0=7;k0.0=0;k3.3=5;k1.2=11;k2.1=12;z");
-        Check.text(x, "a8;k0.0=99;q3;g5");
+        Check.text(x, "a8;k0.0=99;q3;g5;k1.0=14;k0.3=13;k2.3=21");
         int[][] due = {{0, 4}, {1, 9}, {2, 0}, {3, 1}, {10, 0}, {25, 5}, {16, 11}, {19, 12}, {11, -1}, {24, -1}, {4, -1}, {9, -1},
             {26, -1}, {-1, -1}, {Integer.MIN_VALUE, -1}};
         for (int[] d : due) {
@@ -280,6 +280,10 @@ public final class TextsTest {
         Check.due("17 of the highest text", x.number(1, 0, 0), 3);
         Check.due("17 of the highest text", x.number(2, 0, 0), 5);
         Check.due("17 of the lower one if the higher has none", x.number(25, 0, 0), 5);
+        int[][] ofSeas = {{14, 14}, {13, 13}, {21, 21}, {12, -1}, {15, -1}, {17, -1}, {20, -1}};
+        for (int[] d : ofSeas) {
+            Check.due("17 number(" + d[0] + ", 0, 0)", x.number(d[0], 0, 0), d[1]);
+        }
         Check.due("17 no party", x.number(0, 1, 0), -1);
         Check.due("17 no day", x.number(0, 0, 3600), -1);
         Check.due("17 no day", x.number(3, 0, -1), -1);

@@ -261,7 +261,8 @@ public final class WorksTest {
         }
         Check.due("23 s", is(x, 0, 0, "s=3"), true);
         Check.due("23 n", is(x, 0, 0, "n=5"), true);
-        Check.due("23 o", is(x, 0, 0, "o=7"), true);
+        x.station(0, 26, 0, 0);
+        Check.due("23 o", is(x, 0, 0, "o=8"), true);
         Check.due("23 r without reserves", is(x, 0, 0, "r=0"), true);
     }
 
