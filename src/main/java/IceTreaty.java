@@ -1954,10 +1954,7 @@ public final class IceTreaty {
             }
             int sign = next();
             if (sign == '!') {
-                deepen('!');
-                piece();
-                depth--;
-                text.addStep(NOT, 0);
+                negation();
             } else if (sign == '(') {
                 deepen('(');
                 parts();
@@ -1970,6 +1967,13 @@ public final class IceTreaty {
                 terms();
                 text.addStep(kind, 0);
             }
+        }
+
+        private void negation() {
+            deepen('!');
+            piece();
+            depth--;
+            text.addStep(NOT, 0);
         }
 
         private int comparison(int sign) {
@@ -2405,22 +2409,27 @@ public final class IceTreaty {
 
         /** Orders are tried from the least row on, so only a lesser end is better. */
         private void extend(int level, int gone) {
-            if (level >= stops.size) {
-                keep();
-                return;
-            }
             for (int x = 0; x < stops.size; x++) {
                 if ((gone >> x & 1) == 0 && comes(level, x, gone | 1 << x)) {
                     Rows.put(order, level, x);
-                    extend(level + 1, gone | 1 << x);
+                    goOn(level + 1, gone | 1 << x);
                 }
+            }
+        }
+
+        private void goOn(int level, int gone) {
+            if (level < stops.size) {
+                extend(level, gone);
+            } else {
+                keep();
             }
         }
 
         /** Whether the ship comes to a stop in time in all ices and can still end ahead of the best end. */
         private boolean comes(int level, int x, int gone) {
             int leg = Rows.get(legs, Rows.get(order, level - 1) * MOST_STOPS + x);
-            int rest = Rows.get(ahead, ((1 << stops.size) - 1 & ~gone) * MOST_STOPS + x);
+            int toCome = ((1 << stops.size) - 1) & ~gone;
+            int rest = Rows.get(ahead, toCome * MOST_STOPS + x);
             for (int i = 0; i < ICES; i++) {
                 int arrival = level == 0 ? start : Rows.get(days, (level - 1) * ICES + i) + leg;
                 int day = Math.max(arrival, Rows.get(opens, i * MOST_STOPS + x));
