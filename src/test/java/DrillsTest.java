@@ -7,6 +7,7 @@ public final class DrillsTest {
         drill();
         speed();
         goesDown();
+        begunParts();
         stays();
         birds();
         loss();
@@ -42,6 +43,9 @@ public final class DrillsTest {
         sure(120, 100, 20, 130, 10);
         sure(80, 100, 20, 131, 10);
         sure(80, 131, 10, 100, 20);
+        sure(120, 130, 10, 100, 25);
+        sure(120, 130, 10, 100, 20);
+        sure(79, 130, 10, 99, 20);
         sure(0, 50, 60, 700, 10);
         sure(5000, 5000, 0);
         sure(150, 100, 50, 200, 50, 150, 0);
@@ -129,6 +133,27 @@ public final class DrillsTest {
         held();
     }
 
+    /** At 500 metres the second 500 are begun. */
+    private static void begunParts() {
+        for (int part = 1; part < 10; part++) {
+            IceTreaty x = drilling(5000, 0);
+            x.speed(-1, 0);
+            for (int p = 0; p < 10; p++) {
+                x.speed(p, 100);
+            }
+            Check.days(x, 5 * part - 1);
+            x.speed(part - 1, 99);
+            x.speed(part, 7);
+            x.day();
+            Check.due("36 of part " + (part - 1), x.sum(20), 500 * part - 1);
+            x.speed(part - 1, 1);
+            x.day();
+            Check.due("36 of part " + (part - 1) + " yet", x.sum(20), 500 * part);
+            x.day();
+            Check.due("36 of part " + part, x.sum(20), 500 * part + 7);
+        }
+    }
+
     private static void margin() {
         IceTreaty x = drilling(500, 30);
         Check.days(x, 7);
@@ -197,10 +222,24 @@ public final class DrillsTest {
         for (int[] d : due) {
             Check.due("42 loss" + java.util.Arrays.toString(d), x.loss(0, d[0], d[1], d[2], d[3]), d[4]);
         }
+        roundedUp();
         int[][] wrong = {{0, 2, 3, 0, 0}, {0, 3, 5, 0, 0}, {0, 2, 2, 0, 0}, {0, 5, 2, 0, 0}, {0, -1, 2, 0, 0}, {0, 2, 10, 0, 0},
             {0, 2, 5, -1, 0}, {0, 2, 5, 100, 0}, {0, 2, 5, 0, 2}, {0, 2, 5, 0, -1}, {1, 2, 5, 0, 0}, {2, 2, 5, 0, 0}, {-1, 2, 5, 0, 0}};
         for (int[] w : wrong) {
             Check.due("42 loss" + java.util.Arrays.toString(w), x.loss(w[0], w[1], w[2], w[3], w[4]), -1000000);
+        }
+    }
+
+    private static void roundedUp() {
+        int[][] due = {{1, 0, 1, 0, 2}, {0, 1, 1, -2, 0}, {100, 0, 1, 99, 101}, {101, 0, 1, 99, 103}, {0, 100, 1, -101, -99},
+            {0, 101, 1, -103, -99}, {199, 199, 1, -4, 4}, {200, 200, 1, -4, 4}, {201, 201, 1, -6, 6}, {3, 7, 99, -14, 6}};
+        for (int[] d : due) {
+            IceTreaty x = new IceTreaty();
+            x.site(0, true);
+            x.birds(0, 0, d[0]);
+            x.birds(0, 1, d[1]);
+            Check.due("42 the least of " + java.util.Arrays.toString(d), x.loss(0, 0, 1, d[2], 0), d[3]);
+            Check.due("42 the greatest of " + java.util.Arrays.toString(d), x.loss(0, 0, 1, d[2], 1), d[4]);
         }
     }
 

@@ -4,6 +4,7 @@ public final class IceTest {
     public static void main(String[] args) {
         newObject();
         ice();
+        leastAndMostCells();
         cell();
         dark();
         day();
@@ -63,6 +64,24 @@ public final class IceTest {
         Check.days(z, 12);
         Check.due("2 nothing flows any more", z.look(0, 2), 9);
         Check.due("2 heights are 0 again", z.sledge(1, 0, 50), 13);
+    }
+
+    private static void leastAndMostCells() {
+        IceTreaty x = Check.land(1);
+        x.ice(4, 4);
+        Check.due("2 the last cell of 4 by 4", x.station(0, 15, 0, 0), 0);
+        Check.due("2 behind the last cell of 4 by 4", x.station(0, 16, 0, 0), -1);
+        IceTreaty y = Check.land(1);
+        y.ice(12, 12);
+        Check.due("2 the last cell of 12 by 12", y.station(0, 143, 0, 0), 0);
+        Check.due("2 behind the last cell of 12 by 12", y.station(0, 144, 0, 0), -1);
+        Check.due("2 the last cell's height", y.cell(143, 40, 0, -1, 0), true);
+        Check.due("2 no height behind it", y.cell(144, 40, 0, -1, 0), false);
+        IceTreaty z = new IceTreaty();
+        z.party(true);
+        z.ship(0, 1, 0);
+        Check.text(z, "z");
+        Check.due("2 parties, ships and texts may be there", z.ice(6, 6), true);
     }
 
     private static void cell() {
@@ -151,7 +170,39 @@ public final class IceTest {
         }
         Check.due("36 no day above 3599", x.day(), -1);
         Check.due("36 DAY", x.count(0), 3599);
+        Check.due("36 no day above 3599, asked again", x.day(), -1);
         order();
+        worksAheadOfStations();
+        shipsByNumbers();
+    }
+
+    /** On the day on which the ice takes the station along, the works still see it where it was. */
+    private static void worksAheadOfStations() {
+        IceTreaty x = Check.land(2);
+        Check.text(x, "f(o=1)");
+        x.cell(27, 0, 0, 2, 10);
+        x.station(0, 27, 0, 0);
+        x.work(1, 1, 24, 10, 11, 0, 0);
+        x.work(1, 1, 31, 10, 11, 0, 0);
+        Check.days(x, 10);
+        Check.due("36 works ahead of stations: it was 3 far", x.about(0, 6), 1);
+        Check.due("36 works ahead of stations: it was 4 far", x.about(1, 5), 1);
+        x.day();
+        Check.due("36 it is 4 far", x.about(0, 5), 1);
+        Check.due("36 it is 3 far", x.about(1, 6), 1);
+    }
+
+    private static void shipsByNumbers() {
+        IceTreaty x = Check.land(1);
+        x.cell(0, 0, 2, -1, 0);
+        x.station(0, 1, 50, 1000);
+        x.ship(0, 3, 0);
+        x.ship(0, 100, 0);
+        x.voyage(1, 0, 0, 0);
+        x.voyage(0, 0, 0, 0);
+        Check.days(x, 10);
+        Check.due("36 the lower number takes its waste first", x.at(0, 2), 3);
+        Check.due("36 the higher one what is left", x.at(1, 2), 7);
     }
 
     /** Works, then stations, then ships, then sledges. */

@@ -11,6 +11,7 @@ public final class PlacesTest {
         site();
         sixty();
         whose();
+        whoseFirst();
         look();
         Check.end("PlacesTest");
     }
@@ -166,6 +167,20 @@ public final class PlacesTest {
         Check.due("25 for so many days", x.whose(0, 9), 1);
         x.party(true);
         Check.due("25 by its own days", x.whose(3, 9), -2);
+    }
+
+    private static void whoseFirst() {
+        IceTreaty x = Check.land(1);
+        x.claim(0, 0, 0, 0);
+        Check.due("25 place 0", x.whose(0, 0), 0);
+        x.claim(0, 0, 0, 0);
+        Check.due("25 of like ones the lowest place", x.whose(0, 0), 0);
+        x.title(1, 1);
+        Check.due("25 the greatest title", x.whose(0, 0), 1);
+        Check.text(x, "z");
+        Check.due("25 asleep: it would be", x.whose(0, 0), 1);
+        x.station(0, 9, 0, 0);
+        Check.due("25 a station is no claim", x.whose(0, 9), -1);
     }
 
     private static void look() {

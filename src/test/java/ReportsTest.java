@@ -142,6 +142,15 @@ public final class ReportsTest {
         x.feed(0, 0, 0, 0, 0);
         Check.due("57 five twos are in 40 bytes", x.check(6), -2);
         Check.due("57 five twos are in 40 bytes", x.check(5), 6);
+        for (int feeds = 1; feeds <= 20; feeds++) {
+            for (int i = 0; i < feeds; i++) {
+                x.feed(1, 0, 0, 0, 0);
+            }
+            Check.due("57 one two more than " + 20 * feeds + " bytes hold", x.check(20 * feeds / 8 + 1), -2);
+            Check.due("57 the tape stays", x.count(16), 20 * feeds);
+            Check.due("57 as many as they hold", x.check(20 * feeds / 8), 0);
+            Check.due("57 empty then", x.count(16), 0);
+        }
         x.feed(0, 3, 2, 70000, 3);
         Check.due("57 below 0", x.check(-1), -2);
         Check.due("57 huge", x.check(Integer.MAX_VALUE), -2);

@@ -4,9 +4,11 @@ public final class ShipsTest {
     public static void main(String[] args) {
         ship();
         cover();
+        coverInTheNextYear();
         sea();
         voyageRefused();
         voyage();
+        moreThanTold();
         waiting();
         turnsBack();
         stationGone();
@@ -61,6 +63,34 @@ public final class ShipsTest {
             z.day();
             Check.due("27 on the first day of the month behind " + month, z.at(0, 0), 3);
         }
+    }
+
+    private static void coverInTheNextYear() {
+        IceTreaty x = atSea(0, 0);
+        x.cover(0, 0, 1);
+        x.cover(0, 11, 1);
+        x.cover(0, 1, 0);
+        Check.days(x, 345);
+        x.voyage(0, 0, 0, 0);
+        Check.days(x, 10);
+        Check.due("27 month 11", x.at(0, 0), 2);
+        Check.days(x, 5);
+        Check.due("27 month 0 of the next year", x.at(0, 0), 2);
+        Check.days(x, 29);
+        Check.due("27 the last day of it", x.at(0, 4), 35);
+        x.day();
+        Check.due("27 month 1 of it", x.at(0, 0), 3);
+    }
+
+    private static void moreThanTold() {
+        IceTreaty x = Check.land(1);
+        x.cell(0, 0, 2, -1, 0);
+        x.station(0, 9, 0, 100000);
+        x.ship(0, 10000, 0);
+        x.voyage(0, 0, 0, 10000);
+        Check.days(x, 10);
+        Check.due("29 ships may bring more", x.look(0, 7), 110000);
+        Check.due("61 brought", x.sum(0), 110000);
     }
 
     private static IceTreaty openIn(int month) {

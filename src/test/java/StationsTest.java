@@ -7,7 +7,9 @@ public final class StationsTest {
         declare();
         visit();
         burning();
+        justEnough();
         cold();
+        coldForLonger();
         waste();
         flow();
         lostOutside();
@@ -142,6 +144,43 @@ public final class StationsTest {
         Check.due("36 as many as it has", x.sum(1), 4);
         Check.due("36 hidden ones are not burnt", x.look(0, 8), 6);
         Check.due("36 cold", x.look(0, 9), 1);
+    }
+
+    private static void justEnough() {
+        IceTreaty x = Check.land(1);
+        x.station(0, 0, 21, 3);
+        x.day();
+        Check.due("36 as many as it needs: not cold", x.look(0, 9), 0);
+        Check.due("36 none left", x.look(0, 7), 0);
+        x.day();
+        Check.due("36 cold", x.look(0, 9), 1);
+        IceTreaty y = Check.land(1);
+        y.dark(1, 1);
+        y.station(0, 0, 21, 5);
+        y.day();
+        Check.due("36 dark: one less than it needs", y.look(0, 9), 1);
+        Check.due("36 they are burnt all the same", y.sum(1), 5);
+    }
+
+    /** It is the tenth day alone on which all go home: who comes while it stays cold is there on the eleventh. */
+    private static void coldForLonger() {
+        IceTreaty x = Check.land(1);
+        x.station(0, 0, 10, 0);
+        Check.days(x, 10);
+        Check.due("36 the tenth day", x.look(0, 6), 0);
+        x.people(0, 5);
+        x.day();
+        Check.due("36 cold for 11 days", x.look(0, 9), 11);
+        Check.due("36 nobody goes home on the eleventh", x.look(0, 6), 5);
+        Check.due("61 who went home", x.sum(7), 10);
+        Check.days(x, 10);
+        Check.due("36 nor on the twenty-first", x.look(0, 6), 5);
+        x.people(0, -5);
+        x.day();
+        x.people(0, 7);
+        Check.days(x, 10);
+        Check.due("36 but on a tenth one anew", x.look(0, 6), 0);
+        Check.due("61 who went home", x.sum(7), 17);
     }
 
     private static void cold() {

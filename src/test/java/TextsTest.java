@@ -5,10 +5,13 @@ public final class TextsTest {
         feed();
         texts();
         faults();
+        firstFault();
         yes();
         readings();
         striking();
         binding();
+        bindsAll();
+        ownDelay();
         numbers();
         Check.end("TextsTest");
     }
@@ -146,6 +149,18 @@ public final class TextsTest {
         }
     }
 
+    private static void firstFault() {
+        fault("y;y", -1000);
+        fault("z;x20.0;f(", -3003);
+        fault("f(0000000=1;k9", -2008);
+        fault("k4.4=1", -3001);
+        fault("f(a);x20.0", -1003);
+        fault("f(((((((((", -5009);
+        fault("x99999999", -2007);
+        fault("z;z;z;z;z;z;z;z;z;z;z;z;x20.0", -4024);
+        fault("k0.0=999999;g999999;a999999;q999999;n(999999=1)999999;s(a=1)999999", 0);
+    }
+
     private static void fault(String signs, int want) {
         IceTreaty x = Check.land(1);
         Check.due("13 text of " + signs, Check.text(x, signs), want);
@@ -198,15 +213,21 @@ public final class TextsTest {
             Check.due("15 empty then", x.count(16), 0);
         }
         Check.due("15 readings", x.count(6), 6);
+        Check.due("15 a byte is enough for a fault", Check.reading(x, 0, 0, 0, "("), -1001);
+        Check.due("15 empty then", x.count(16), 0);
+        Check.due("15 a ninth in its own clause alone", Check.reading(x, 0, 0, 4, "(!!!!!!!a=1&!!!!!!!a=1)"), 0);
+        Check.due("15 a ninth", Check.reading(x, 0, 0, 4, "(!!!!!!!!a=1)"), -5008);
+        Check.due("15 readings", x.count(6), 7);
         String ones = "1+1+1+1+1+1+1+1+1+1+1+1+1+1+1+1+1+1+1+1+1+1+1+1+1+1+1+1+1+1+1+1+1+1+1+1+1+1+1+1+1+1+1+1+1+1+1+1";
         Check.due("15 100 bytes", Check.reading(x, 0, 0, 0, "(" + ones + "=48)"), 0);
         Check.feed(x, "(" + ones + "=048)");
         Check.due("15 101 bytes", x.reading(0, 0, 0, 101), -1);
         x.check(0);
-        for (int r = 7; r < 20; r++) {
+        for (int r = 8; r < 20; r++) {
             Check.due("15 reading", Check.reading(x, 1, 0, 4, "(a=2)"), 0);
         }
         Check.due("15 20 are there", Check.reading(x, 1, 0, 4, "(a=2)"), -1);
+        Check.due("15 the tape stays", x.count(16), 20);
         Check.due("15 readings", x.count(6), 20);
     }
 
@@ -258,6 +279,54 @@ public final class TextsTest {
         Check.due("16 no g yet", y.counts(1, 0, 1), 1);
         Check.due("16 a g that is in force keeps it", y.counts(1, 0, 2), 0);
         Check.due("16 till its days are over", y.counts(1, 0, 3), 1);
+    }
+
+    private static void bindsAll() {
+        IceTreaty x = new IceTreaty();
+        Check.text(x, 3, 5, "a7;g9");
+        x.party(false);
+        x.day();
+        x.party(true);
+        for (int p = 0; p < 2; p++) {
+            Check.due("16 text 0 ahead of its days, party " + p, x.counts(0, p, 2), 0);
+            Check.due("16 text 0 binds all, party " + p, x.counts(0, p, 3), 2);
+            Check.due("16 text 0 binds all, party " + p, x.number(0, p, 5), 7);
+            Check.due("16 text 0 behind its days, party " + p, x.number(0, p, 6), 0);
+        }
+        Check.text(x, 4, 9, "z");
+        x.yes(0, 1);
+        Check.due("16 yes ahead of its days: bound by g 9 of text 0", x.counts(1, 0, 5), 0);
+        Check.due("16 from then on without a g", x.counts(1, 0, 6), 1);
+        Check.due("16 no yes of the other one", x.counts(1, 1, 6), 0);
+        Check.due("16 its last day", x.counts(1, 0, 9), 1);
+        Check.due("16 behind its days", x.counts(1, 0, 10), 0);
+    }
+
+    /** Only what stands below a text keeps it waiting. */
+    private static void ownDelay() {
+        IceTreaty x = Check.land(1);
+        Check.text(x, "z");
+        Check.text(x, "g5;a1");
+        Check.text(x, "g7;x1.0");
+        x.yes(0, 1);
+        Check.due("16 its own g does not keep it", x.counts(1, 0, 0), 2);
+        x.yes(0, 2);
+        Check.due("16 a g of a higher text does not keep it", x.counts(1, 0, 0), 2);
+        Check.due("16 that of the lower one does", x.counts(2, 0, 4), 0);
+        Check.due("16 for so many days", x.counts(2, 0, 5), 2);
+        Check.due("16 and is struck then", x.counts(1, 0, 5), 1);
+        Check.due("17 g", x.number(2, 0, 4), 5);
+        Check.due("17 g of the higher one", x.number(2, 0, 5), 7);
+        Check.due("16 not on days ahead of the yes", later(), 0);
+    }
+
+    private static int later() {
+        IceTreaty x = Check.land(1);
+        Check.text(x, "z");
+        Check.text(x, "z");
+        Check.days(x, 3);
+        x.yes(0, 1);
+        return x.counts(1, 0, 2) + 10 * (x.counts(1, 0, 3) - 1);
     }
 
     private static void numbers() {

@@ -4,15 +4,21 @@ public final class WorksTest {
     public static void main(String[] args) {
         decides();
         becomesDeciding();
+        behindAllWorks();
         work();
         telling();
         consent();
         notice();
         order();
         letters();
+        daysAndYears();
         nearness();
+        reservesAlone();
+        lostStations();
         arithmetic();
         asMuchAsMatters();
+        struckIsNotAsked();
+        refusedAgainAndAgain();
         readings();
         done();
         about();
@@ -59,6 +65,23 @@ public final class WorksTest {
         Check.due("18 one that decides stays", x.count(20), 0);
         x.day();
         Check.due("18 it stays", x.count(21), 3);
+    }
+
+    /** It decides behind the works of the day on which it has enough science, whatever their numbers. */
+    private static void behindAllWorks() {
+        IceTreaty x = new IceTreaty();
+        x.party(false);
+        Check.text(x, "q1;f(b=0&a=1)");
+        x.work(1, 0, 0, 0, 9, 0, 0);
+        x.work(0, 0, 0, 0, 9, 0, 0);
+        x.work(1, 0, 0, 0, 9, 0, 0);
+        x.day();
+        Check.due("18 it decides from this day on", x.count(20), 1);
+        Check.due("18 the work ahead was held", x.about(0, 6), 1);
+        Check.due("18 the work behind was held, too", x.about(2, 6), 1);
+        Check.due("23 asked now it may be done", x.may(2, 1, false), 0);
+        x.day();
+        Check.due("18 the next day it is done", x.about(0, 5) + x.about(2, 5), 2);
     }
 
     private static void work() {
@@ -247,6 +270,43 @@ public final class WorksTest {
         Check.due("23 as all stands now", is(x, 0, 0, "h=34&i=0"), true);
     }
 
+    private static void daysAndYears() {
+        int[][] due = {{0, 0, 0, 0}, {119, 0, 119, 0}, {120, 0, 120, 1}, {239, 0, 239, 1}, {240, 0, 240, 0}, {359, 0, 359, 0},
+            {360, 1, 0, 0}, {479, 1, 119, 0}, {480, 1, 120, 1}, {719, 1, 359, 0}, {720, 2, 0, 0}, {3599, 9, 359, 0}};
+        for (int[] d : due) {
+            String letters = "y=" + d[1] + "&d=" + d[2] + "&m=" + d[3];
+            IceTreaty x = Check.land(1);
+            Check.text(x, "f(" + letters + ")");
+            x.work(3, 0, 0, 0, 9, 0, 0);
+            Check.due("23 day " + d[0] + ": " + letters, x.may(0, d[0], false), 1);
+        }
+    }
+
+    private static void reservesAlone() {
+        IceTreaty x = Check.land(1);
+        Check.text(x, "f(1=0)");
+        x.claim(0, 0, 63, 99);
+        x.station(0, 9, 0, 0);
+        x.field(1, 9);
+        x.work(3, 0, 9, 0, 9, 0, 0);
+        Check.due("23 r of no reserve is 0, whatever else is there", is(x, 0, 0, "r=0"), true);
+        x.reserve(9, 9, 1);
+        Check.due("23 r is no title", is(x, 0, 0, "r=1"), true);
+        x.reserve(0, 8, 9);
+        Check.due("23 r of those alone that have the cell", is(x, 0, 0, "r=1"), true);
+    }
+
+    private static void lostStations() {
+        IceTreaty x = Check.land(2);
+        Check.text(x, "f(1=0)");
+        x.cell(0, 0, 0, 0, 10);
+        x.station(0, 0, 0, 0);
+        x.work(3, 1, 27, 0, 99, 0, 0);
+        Check.days(x, 10);
+        Check.due("23 it is lost", x.look(0, 5), 1);
+        Check.due("23 o counts lost ones, too", is(x, 0, 10, "o=1"), true);
+    }
+
     private static void nearness() {
         IceTreaty x = Check.land(2);
         Check.text(x, "f(1=0)");
@@ -313,6 +373,31 @@ public final class WorksTest {
         x.say(0, 0, true);
         Check.due("23 refused even with leave", x.may(0, 0, false), 6);
         Check.due("24 refused even with leave", x.why(0, 0, false, 1), 0);
+    }
+
+    private static void struckIsNotAsked() {
+        IceTreaty x = Check.land(1);
+        Check.text(x, "f(1/0=1);f(a=4)");
+        Check.text(x, "x0.0");
+        x.work(3, 0, 27, 0, 9, 7, 0);
+        x.work(4, 0, 27, 0, 9, 7, 0);
+        Check.due("23 refused", x.may(0, 0, false), 6);
+        x.yes(0, 1);
+        Check.due("23 what is struck is not asked", x.may(0, 0, false), 0);
+        Check.due("23 what is struck is not asked", x.may(1, 0, false), 1);
+        Check.due("24 the clause that bars", x.why(1, 0, false, 1), 1);
+    }
+
+    private static void refusedAgainAndAgain() {
+        IceTreaty x = Check.land(1);
+        Check.text(x, "f(a=4&1<[1+2*[3/[4-a]]]);f(a=5&1<[1+2*[3/[4-a]]])");
+        x.work(4, 0, 27, 0, 9, 7, 0);
+        x.work(5, 0, 27, 0, 9, 7, 0);
+        for (int i = 0; i < 50; i++) {
+            Check.due("23 refused", x.may(0, 0, false), 6);
+        }
+        Check.due("23 nothing is left of what was refused", x.may(1, 0, false), 0);
+        Check.due("23 refused", x.may(0, 0, false), 6);
     }
 
     private static void readings() {
