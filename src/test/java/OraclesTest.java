@@ -15,7 +15,7 @@ public final class OraclesTest {
     private static void randomConditions() {
         Random random = new Random(1);
         for (int run = 0; run < 3000; run++) {
-            String condition = parts(random, 3);
+            String condition = RandomTexts.condition(random, 3);
             if (condition.length() > 190 || depth(condition) > 7) {
                 continue;
             }
@@ -40,57 +40,6 @@ public final class OraclesTest {
             most += condition.charAt(i) == '!' ? 1 : 0;
         }
         return most;
-    }
-
-    private static String parts(Random random, int depth) {
-        StringBuilder s = new StringBuilder(part(random, depth));
-        while (random.nextInt(3) == 0) {
-            s.append('|').append(part(random, depth));
-        }
-        return s.toString();
-    }
-
-    private static String part(Random random, int depth) {
-        StringBuilder s = new StringBuilder(piece(random, depth));
-        while (random.nextInt(3) == 0) {
-            s.append('&').append(piece(random, depth));
-        }
-        return s.toString();
-    }
-
-    private static String piece(Random random, int depth) {
-        int kind = random.nextInt(depth > 0 ? 6 : 4);
-        if (kind == 5) {
-            return "(" + parts(random, depth - 1) + ")";
-        }
-        if (kind == 4) {
-            return "!" + piece(random, depth - 1);
-        }
-        return sum(random, depth) + "<>=".charAt(random.nextInt(3)) + sum(random, depth);
-    }
-
-    private static String sum(Random random, int depth) {
-        StringBuilder s = new StringBuilder(product(random, depth));
-        while (random.nextInt(3) == 0) {
-            s.append("+-".charAt(random.nextInt(2))).append(product(random, depth));
-        }
-        return s.toString();
-    }
-
-    private static String product(Random random, int depth) {
-        StringBuilder s = new StringBuilder(factor(random, depth));
-        while (random.nextInt(3) == 0) {
-            s.append("*/%".charAt(random.nextInt(3))).append(factor(random, depth));
-        }
-        return s.toString();
-    }
-
-    private static String factor(Random random, int depth) {
-        int kind = random.nextInt(depth > 0 ? 5 : 4);
-        if (kind == 4) {
-            return "[" + sum(random, depth - 1) + "]";
-        }
-        return kind < 2 ? "" + "apbhirsnotedym".charAt(random.nextInt(14)) : "" + random.nextInt(random.nextInt(9) == 0 ? 1000000 : 4);
     }
 
     /** Splits a condition at its weakest sign outside of brackets, from the right. */
@@ -189,7 +138,7 @@ public final class OraclesTest {
     private static void spoiledTexts() {
         Random random = new Random(5);
         for (int run = 0; run < 3000; run++) {
-            String text = text(random);
+            String text = RandomTexts.text(random, 12, 20);
             if (text.length() > 200) {
                 continue;
             }
@@ -209,37 +158,6 @@ public final class OraclesTest {
             if (bad.length() <= 200) {
                 Check.due("13 text of " + bad, Check.text(Check.land(1), bad), -1000 - cut);
             }
-        }
-    }
-
-    private static String text(Random random) {
-        StringBuilder s = new StringBuilder(clause(random));
-        for (int j = random.nextInt(12); j > 0; j--) {
-            s.append(';').append(clause(random));
-        }
-        return s.toString();
-    }
-
-    private static String clause(Random random) {
-        char letter = "flnsczaqkgx".charAt(random.nextInt(11));
-        String condition = "(" + parts(random, 1) + ")";
-        String n = "" + random.nextInt(1000);
-        switch (letter) {
-            case 'f':
-            case 'l':
-            case 'c':
-                return letter + condition;
-            case 'n':
-            case 's':
-                return letter + condition + n;
-            case 'z':
-                return "z";
-            case 'k':
-                return "k" + random.nextInt(4) + "." + random.nextInt(4) + "=" + n;
-            case 'x':
-                return "x" + random.nextInt(20) + "." + random.nextInt(12);
-            default:
-                return letter + n;
         }
     }
 

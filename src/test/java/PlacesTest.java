@@ -5,6 +5,7 @@ public final class PlacesTest {
         party();
         claim();
         title();
+        asleepForOne();
         station();
         field();
         reserve();
@@ -60,6 +61,20 @@ public final class PlacesTest {
         Check.due("7 as much while asleep", x.title(0, 11), true);
         Check.due("7 less while asleep", x.title(0, 4), true);
         Check.due("7 it is told", x.look(0, 4), 4);
+    }
+
+    private static void asleepForOne() {
+        IceTreaty x = Check.land(2);
+        x.claim(0, 0, 9, 10);
+        x.claim(1, 0, 9, 10);
+        Check.text(x, "a0");
+        Check.text(x, "z");
+        x.yes(1, 1);
+        Check.due("7 not asleep for its party", x.title(0, 11), true);
+        Check.due("7 asleep for its party", x.title(1, 11), false);
+        Check.due("6 not asleep for its party", x.claim(0, 0, 0, 1), 2);
+        Check.due("6 asleep for its party", x.claim(1, 0, 0, 1), -1);
+        Check.due("6 asleep for its party, a title of 0, too", x.claim(1, 0, 0, 0), -1);
     }
 
     private static void station() {

@@ -8,6 +8,7 @@ public final class WorksTest {
         work();
         telling();
         consent();
+        consentAsSaidNow();
         notice();
         order();
         letters();
@@ -20,6 +21,7 @@ public final class WorksTest {
         struckIsNotAsked();
         refusedAgainAndAgain();
         readings();
+        readingsOfAllLetters();
         done();
         about();
         Check.end("WorksTest");
@@ -163,6 +165,22 @@ public final class WorksTest {
         Check.due("22 no party", x.say(-1, 0, true), false);
         Check.due("22 no work", x.say(0, 1, true), false);
         Check.due("22 no work", x.say(0, -1, true), false);
+    }
+
+    private static void consentAsSaidNow() {
+        IceTreaty x = Check.land(1);
+        Check.text(x, "c(1=1)");
+        x.work(1, 0, 0, 1, 9, 0, 0);
+        Check.days(x, 2);
+        Check.due("60 held without consent", x.about(0, 6), 2);
+        x.say(0, 0, true);
+        Check.due("23 consent of a day gone by, as said now", x.may(0, 0, false), 0);
+        x.day();
+        Check.due("60 done with it", x.about(0, 5), 1);
+        x.say(0, 0, false);
+        Check.due("23 no consent of a day gone by, as said now", x.may(0, 3, false), 5);
+        x.day();
+        Check.due("60 held again", x.about(0, 6), 3);
     }
 
     private static void notice() {
@@ -427,6 +445,30 @@ public final class WorksTest {
         x.yes(0, 1);
         Check.due("23 a text that binds", x.may(0, 1, true), 1);
         Check.due("24 a text that binds", x.why(0, 1, true, 0), 1);
+    }
+
+    /** A reading tells another C alone: N, and what is asked for, stay those of the clause. */
+    private static void readingsOfAllLetters() {
+        String[] clauses = {"f(a=1)", "l(a=1)", "n(a=1)3", "s(a=1)3", "c(a=1)"};
+        for (int i = 0; i < clauses.length; i++) {
+            IceTreaty x = Check.land(2);
+            Check.text(x, "z;" + clauses[i]);
+            x.work(2, 0, 0, 3, 9, 0, 0);
+            x.work(2, 0, 0, 2, 9, 0, 0);
+            Check.due("15 reading of " + clauses[i], Check.reading(x, 0, 0, 1, "(a=2)"), 0);
+            Check.due("23 " + clauses[i] + " read in its own way", x.may(0, 3, true), i + 1);
+            Check.due("24 " + clauses[i] + " read in its own way", x.why(0, 3, true, 1), 1);
+            Check.due("23 " + clauses[i] + " by all", x.may(0, 3, false), 0);
+            for (int w = 0; w < 2; w++) {
+                x.tell(w, 0);
+                x.tell(w, 1);
+                x.study(w, 0);
+                x.say(0, w, true);
+                x.say(1, w, true);
+            }
+            Check.due("23 " + clauses[i] + " with all that is asked for", x.may(0, 3, true), i == 0 ? 1 : 0);
+            Check.due("23 " + clauses[i] + " with N of the clause", x.may(1, 3, true), i == 0 ? 1 : i == 2 ? 3 : i == 3 ? 4 : 0);
+        }
     }
 
     private static void done() {
