@@ -119,7 +119,7 @@ public final class IceTest {
     private static void onlyIceFlows() {
         IceTreaty x = Check.land(1);
         x.station(0, 27, 0, 0);
-        x.cell(27, 0, 1, 2, 10);
+        Check.due("3 a way may be told for rock", x.cell(27, 0, 1, 2, 10), true);
         Check.days(x, 12);
         Check.due("3 rock does not flow", x.look(0, 2), 27);
         x.cell(27, 0, 0, 2, 10);

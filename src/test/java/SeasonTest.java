@@ -120,6 +120,13 @@ public final class SeasonTest {
         Check.due("54 needs above room", x.planned(0, 0, 0, 0), -1);
         Check.due("53 room for all", x.plan(1, 0, 0), 14);
         Check.due("53 needs above room, still", x.plan(0, 0, 0), -1);
+        IceTreaty y = Check.land(1);
+        y.ship(0, 10, 0);
+        y.ship(0, 11, 0);
+        y.station(0, 9, 0, 0);
+        y.stop(0, 11);
+        Check.due("53 the need of one alone above room", y.plan(0, 0, 0), -1);
+        Check.due("53 as much as room", y.plan(1, 0, 0), 10);
     }
 
     private static void likeOnes() {

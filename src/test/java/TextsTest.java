@@ -41,7 +41,11 @@ public final class TextsTest {
         Check.due("13 two clauses", x.counts(0, 0, 7), 2);
         Check.due("13 ahead of its first day", x.counts(0, 0, 6), 0);
         Check.due("13 behind its last day", x.counts(0, 0, 8), 0);
-        for (int i = 1; i < 20; i++) {
+        Check.due("13 the first day alone", Check.text(x, 0, 0, "z"), 1);
+        Check.due("13 the last day alone", Check.text(x, 3599, 3599, "z"), 2);
+        x.yes(0, 2);
+        Check.due("13 the last day alone", x.counts(2, 0, 3598) + 10 * x.counts(2, 0, 3599), 10);
+        for (int i = 3; i < 20; i++) {
             Check.due("13 text", Check.text(x, 0, 3599, "z"), i);
         }
         Check.due("13 20 are there", Check.text(x, 0, 3599, "z"), -1);
