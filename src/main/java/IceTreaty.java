@@ -539,7 +539,7 @@ public final class IceTreaty {
         int nests = 0;
         int stations = 0;
         for (int k = 0; k < placeCount; k++) {
-            Place place = places[k];
+            Place place = anyPlace(k);
             if (place == null) {
                 continue;
             }
@@ -1205,7 +1205,7 @@ public final class IceTreaty {
     // ---- how all stands ----
 
     public int look(int k, int what) {
-        Place place = k >= 0 && k < placeCount && k < places.length ? places[k] : null;
+        Place place = anyPlace(k);
         if (place == null) {
             return NONE;
         }
@@ -1367,8 +1367,12 @@ public final class IceTreaty {
         return p >= 0 && p < partyCount && p < parties.length ? parties[p] : null;
     }
 
+    private Place anyPlace(int k) {
+        return k >= 0 && k < placeCount && k < places.length ? places[k] : null;
+    }
+
     private Place placeOf(int k, int kind) {
-        Place place = k >= 0 && k < placeCount && k < places.length ? places[k] : null;
+        Place place = anyPlace(k);
         return place != null && place.kind == kind ? place : null;
     }
 
